@@ -1,0 +1,88 @@
+/** What the tests share: comparing answers, typing texts and reading them back. */
+final class Check {
+    private static int wrong = 0;
+    private static int compared = 0;
+
+    private Check() {
+    }
+
+    static void same(String what, long got, long want) {
+        compared++;
+        if (got != want) {
+            wrong++;
+            System.out.println(what + " answered " + got + ", due is " + want);
+        }
+    }
+
+    static void same(String what, boolean got, boolean want) {
+        same(what, got ? 1 : 0, want ? 1 : 0);
+    }
+
+    static void same(String what, String got, String want) {
+        compared++;
+        if (!got.equals(want)) {
+            wrong++;
+            System.out.println(what + " is \"" + got + "\", due is \"" + want + "\"");
+        }
+    }
+
+    static PathPatcher typed(String text) {
+        PathPatcher patcher = new PathPatcher();
+        retype(patcher, text);
+        return patcher;
+    }
+
+    static void retype(PathPatcher patcher, String text) {
+        patcher.clear();
+        for (int i = 0; i < text.length(); i++) {
+            same("type " + text.charAt(i), patcher.type(text.charAt(i)), true);
+        }
+    }
+
+    static String textOf(PathPatcher patcher) {
+        StringBuilder text = new StringBuilder();
+        for (int i = 0; i < patcher.length(); i++) {
+            text.append((char) patcher.at(i));
+        }
+        return text.toString();
+    }
+
+    static void nodes(String text, int want) {
+        same("nodes of " + text, typed(text).nodes(), want);
+    }
+
+    /** The numbers of all matches, as "[1, 2]", or what matches() answered if that is negative. */
+    static String matchesOf(PathPatcher patcher) {
+        int count = patcher.matches();
+        if (count < 0) {
+            return Integer.toString(count);
+        }
+        StringBuilder row = new StringBuilder("[");
+        for (int i = 0; i < count; i++) {
+            row.append(i == 0 ? "" : ", ").append(patcher.match(i));
+        }
+        same("match behind the last one", patcher.match(count), -1);
+        same("match before the first one", patcher.match(-1), -1);
+        return row.append("]").toString();
+    }
+
+    /** Every hit as node/item, by nodes. */
+    static String hitsOf(PathPatcher patcher) {
+        StringBuilder row = new StringBuilder();
+        for (int n = -1; n <= 24; n++) {
+            for (int k = -1; k <= 6; k++) {
+                if (patcher.hit(n, k)) {
+                    row.append(row.length() == 0 ? "" : " ").append(n).append('/').append(k);
+                }
+            }
+        }
+        return row.toString();
+    }
+
+    static void end() {
+        System.out.println(compared + " answers compared, " + wrong + " wrong");
+        if (wrong != 0) {
+            System.exit(1);
+        }
+    }
+}
