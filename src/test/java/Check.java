@@ -69,8 +69,9 @@ final class Check {
     /** Every hit as node/item, by nodes. */
     static String hitsOf(PathPatcher patcher) {
         StringBuilder row = new StringBuilder();
-        for (int n = -1; n <= 24; n++) {
-            for (int k = -1; k <= 6; k++) {
+        int nodes = patcher.nodes();
+        for (int n = 0; n < nodes; n++) {
+            for (int k = 0; k < 6; k++) {
                 if (patcher.hit(n, k)) {
                     row.append(row.length() == 0 ? "" : " ").append(n).append('/').append(k);
                 }
