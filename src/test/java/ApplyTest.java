@@ -21,21 +21,16 @@ public final class ApplyTest {
         Check.end();
     }
 
-    private static void expect(PathPatcher patcher, int answer, String text) {
-        Check.same("apply", patcher.apply(), answer);
-        Check.same("text", Check.textOf(patcher), text);
-    }
-
     private static void refusalsInOrder() {
         PathPatcher patcher = Check.typed("f(a)");
-        expect(patcher, -1, "f(a)");
+        Check.applied(patcher, -1, "f(a)");
         patcher.type(';');
-        expect(patcher, -2, "f(a);");
+        Check.applied(patcher, -2, "f(a);");
         patcher.item(true, 0, 0, 4, 0);
         patcher.dots(-1, 0, 0, 0);
-        expect(patcher, -2, "f(a);");
+        Check.applied(patcher, -2, "f(a);");
         patcher.type('}');
-        expect(patcher, -1, "f(a);}");
+        Check.applied(patcher, -1, "f(a);}");
     }
 
     private static void keptItemsEditNothing() {
@@ -43,19 +38,19 @@ public final class ApplyTest {
         patcher.item(false, 0, 0, 4, 0);
         patcher.item(false, 0, 1, 4, 0);
         Check.same("matches", patcher.matches(), 1);
-        expect(patcher, 0, "f(a); g(a);");
+        Check.applied(patcher, 0, "f(a); g(a);");
     }
 
     private static void spansAreTakenOut() {
         PathPatcher patcher = Check.typed(" f ( #x# a ) #;# ; #y# g(a); f(b);#z#");
         patcher.item(true, 0, 0, 4, 0);
-        expect(patcher, 2, "  #y# g(a); #z#");
-        expect(patcher, 0, "  #y# g(a); #z#");
+        Check.applied(patcher, 2, "  #y# g(a); #z#");
+        Check.applied(patcher, 0, "  #y# g(a); #z#");
         Check.retype(patcher, "f(a);");
-        expect(patcher, 1, "");
+        Check.applied(patcher, 1, "");
         Check.same("nodes", patcher.nodes(), 0);
         Check.retype(patcher, "*a{?b{f(c);}:{f(d);}}");
-        expect(patcher, 2, "*a{?b{}:{}}");
+        Check.applied(patcher, 2, "*a{?b{}:{}}");
         Check.same("edge of the new text", patcher.edge(1, 0), 0);
     }
 
@@ -63,8 +58,8 @@ public final class ApplyTest {
         PathPatcher patcher = Check.typed("f( a ) ; g(b);");
         patcher.item(false, 0, 0, 4, 0);
         patcher.plus(0, 2, 4, 0);
-        expect(patcher, 1, "f( a ) ;h(a); g(b);");
-        expect(patcher, 1, "f( a ) ;h(a);h(a); g(b);");
+        Check.applied(patcher, 1, "f( a ) ;h(a); g(b);");
+        Check.applied(patcher, 1, "f( a ) ;h(a);h(a); g(b);");
         Check.same("nodes", patcher.nodes(), 4);
     }
 
@@ -73,7 +68,7 @@ public final class ApplyTest {
         patcher.item(true, 0, 0, 4, 0);
         patcher.plus(0, 1, 4, 0);
         patcher.plus(1, 0, 4, 3);
-        expect(patcher, 2, "?a{ g(b);b=d; }g(c);c=d;");
+        Check.applied(patcher, 2, "?a{ g(b);b=d; }g(c);c=d;");
     }
 
     private static void textsOfEachKind() {
@@ -85,7 +80,7 @@ public final class ApplyTest {
         patcher.item(true, 0, 0, 6, 0);
         patcher.plus(0, 2, 6, 0);
         patcher.plus(0, 1, 2, 0);
-        expect(patcher, 2, "b=a;!b;?c{}h(d);g(c);");
+        Check.applied(patcher, 2, "b=a;!b;?c{}h(d);g(c);");
     }
 
     private static void commentsAndSpacesStay() {
@@ -93,17 +88,17 @@ public final class ApplyTest {
         patcher.item(true, 0, 0, 0, 0);
         patcher.item(false, 0, 1, 0, 0);
         patcher.plus(2, 0, 0, 0);
-        expect(patcher, 2, "# f(a); # # g # g(a) ;!a; #f(a);#");
+        Check.applied(patcher, 2, "# f(a); # # g # g(a) ;!a; #f(a);#");
     }
 
     private static void editsOfManyNodes() {
         PathPatcher patcher = Check.typed("!a;".repeat(24));
         patcher.item(true, 2, 0, 4, 0);
         patcher.plus(0, 0, 4, 0);
-        expect(patcher, 24, "f(a);".repeat(24));
+        Check.applied(patcher, 24, "f(a);".repeat(24));
         patcher.forget();
         patcher.item(true, 0, 0, 4, 0);
-        expect(patcher, 24, "");
+        Check.applied(patcher, 24, "");
     }
 
     private static void conflictsOfMatches() {
@@ -112,10 +107,10 @@ public final class ApplyTest {
         patcher.item(false, 0, 1, 5, 0);
         patcher.plus(1, 0, 5, 4);
         Check.same("matches", patcher.matches(), 2);
-        expect(patcher, -3, "?c{f(a);}:{f(b);}g(c);");
+        Check.applied(patcher, -3, "?c{f(a);}:{f(b);}g(c);");
         Check.same("matches after it", patcher.matches(), 2);
         Check.retype(patcher, "?c{f(a);}:{f(a);}g(c);");
-        expect(patcher, 3, "?c{}:{}g(c);c=a;");
+        Check.applied(patcher, 3, "?c{}:{}g(c);c=a;");
     }
 
     private static void conflictsOfItems() {
@@ -124,20 +119,20 @@ public final class ApplyTest {
         patcher.item(false, 0, 0, 4, 0);
         patcher.plus(0, 1, 4, 0);
         Check.same("hits", Check.hitsOf(patcher), "0/0 1/0 1/1 2/1");
-        expect(patcher, -3, "f(a);f(a);f(a);");
+        Check.applied(patcher, -3, "f(a);f(a);f(a);");
         patcher.forget();
         patcher.item(true, 0, 0, 4, 0);
         patcher.plus(0, 1, 4, 0);
         patcher.item(false, 0, 0, 4, 0);
         patcher.plus(0, 1, 4, 0);
-        expect(patcher, -3, "f(a);f(a);f(a);");
+        Check.applied(patcher, -3, "f(a);f(a);f(a);");
         patcher.forget();
         patcher.item(false, 0, 0, 4, 0);
         patcher.plus(0, 1, 4, 0);
         patcher.item(false, 0, 0, 4, 0);
         patcher.plus(0, 1, 4, 0);
         patcher.plus(0, 1, 4, 0);
-        expect(patcher, -3, "f(a);f(a);f(a);");
+        Check.applied(patcher, -3, "f(a);f(a);f(a);");
     }
 
     private static void sameEditsAreNoConflict() {
@@ -146,9 +141,9 @@ public final class ApplyTest {
         patcher.plus(0, 1, 4, 0);
         patcher.item(true, 0, 0, 5, 0);
         patcher.plus(0, 1, 5, 0);
-        expect(patcher, 3, "g(a);g(a);g(a);");
+        Check.applied(patcher, 3, "g(a);g(a);g(a);");
         Check.retype(patcher, "f(a);f(b);f(a);");
-        expect(patcher, 3, "g(a);g(b);g(a);");
+        Check.applied(patcher, 3, "g(a);g(b);g(a);");
     }
 
     private static void hitsWithoutAnEditAreNoConflict() {
@@ -156,43 +151,43 @@ public final class ApplyTest {
         patcher.item(false, 0, 0, 4, 0);
         patcher.item(true, 0, 0, 4, 0);
         Check.same("hits", Check.hitsOf(patcher), "0/0 1/0 1/1 2/1");
-        expect(patcher, 2, "f(a);");
+        Check.applied(patcher, 2, "f(a);");
     }
 
     private static void limitOfText() {
         PathPatcher patcher = Check.typed("!a;" + " ".repeat(152));
         patcher.item(false, 2, 0, 4, 0);
         patcher.plus(0, 0, 4, 0);
-        expect(patcher, 1, "!a;f(a);" + " ".repeat(152));
+        Check.applied(patcher, 1, "!a;f(a);" + " ".repeat(152));
         Check.same("length", patcher.length(), 160);
-        expect(patcher, -4, "!a;f(a);" + " ".repeat(152));
+        Check.applied(patcher, -4, "!a;f(a);" + " ".repeat(152));
         PathPatcher full = Check.typed("! a;" + " ".repeat(156));
         full.item(true, 2, 0, 4, 0);
         full.plus(1, 0, 4, 0);
-        expect(full, 1, "a=a;" + " ".repeat(156));
+        Check.applied(full, 1, "a=a;" + " ".repeat(156));
         PathPatcher over = Check.typed("!a;" + " ".repeat(157));
         over.item(true, 2, 0, 4, 0);
         over.plus(1, 0, 4, 0);
-        expect(over, -4, "!a;" + " ".repeat(157));
+        Check.applied(over, -4, "!a;" + " ".repeat(157));
     }
 
     private static void limitOfNodes() {
         PathPatcher patcher = Check.typed("!a;".repeat(23) + "f(b);");
         patcher.item(false, 0, 0, 4, 0);
         patcher.plus(2, 0, 4, 0);
-        expect(patcher, -5, "!a;".repeat(23) + "f(b);");
+        Check.applied(patcher, -5, "!a;".repeat(23) + "f(b);");
         Check.retype(patcher, "!a;".repeat(22) + "f(b);");
-        expect(patcher, 1, "!a;".repeat(22) + "f(b);!b;");
+        Check.applied(patcher, 1, "!a;".repeat(22) + "f(b);!b;");
         Check.same("nodes", patcher.nodes(), 24);
         PathPatcher swap = Check.typed("!a;".repeat(23) + "f(b);");
         swap.item(true, 0, 0, 4, 0);
         swap.plus(2, 0, 4, 0);
-        expect(swap, 1, "!a;".repeat(23) + "!b;");
+        Check.applied(swap, 1, "!a;".repeat(23) + "!b;");
         swap.forget();
         swap.item(true, 2, 0, 1, 0);
         swap.plus(2, 0, 0, 0);
         swap.plus(2, 0, 0, 0);
-        expect(swap, -5, "!a;".repeat(23) + "!b;");
+        Check.applied(swap, -5, "!a;".repeat(23) + "!b;");
     }
 
     private static void limitsInOrder() {
@@ -200,7 +195,7 @@ public final class ApplyTest {
         PathPatcher patcher = Check.typed(text);
         patcher.item(false, 2, 0, 4, 0);
         patcher.plus(0, 0, 4, 0);
-        expect(patcher, -4, text);
+        Check.applied(patcher, -4, text);
         Check.retype(patcher, "?a{f(a);}:{f(b);}g(c);" + " ".repeat(138));
         patcher.forget();
         patcher.item(false, 0, 0, 4, 0);
@@ -214,10 +209,10 @@ public final class ApplyTest {
         patcher.item(true, 0, 0, 4, 0);
         patcher.plus(0, 0, 4, 0);
         patcher.plus(0, 1, 4, 0);
-        expect(patcher, 1, "f(a);g(a);");
-        expect(patcher, 1, "f(a);g(a);g(a);");
+        Check.applied(patcher, 1, "f(a);g(a);");
+        Check.applied(patcher, 1, "f(a);g(a);g(a);");
         Check.same("item", patcher.item(false, 0, 1, 4, 0), 2);
-        expect(patcher, 1, "f(a);g(a);g(a);g(a);");
+        Check.applied(patcher, 1, "f(a);g(a);g(a);g(a);");
     }
 
     private static void newStatementsAfterASearch() {
@@ -227,6 +222,6 @@ public final class ApplyTest {
         patcher.plus(0, 1, 4, 0);
         Check.same("matches", patcher.matches(), 1);
         patcher.plus(0, 2, 4, 0);
-        expect(patcher, 1, "f(a);g(a);h(a);");
+        Check.applied(patcher, 1, "f(a);g(a);h(a);");
     }
 }

@@ -41,14 +41,43 @@ final class Check {
 
     static String textOf(PathPatcher patcher) {
         StringBuilder text = new StringBuilder();
-        for (int i = 0; i < patcher.length(); i++) {
+        int length = patcher.length();
+        for (int i = 0; i < length; i++) {
             text.append((char) patcher.at(i));
         }
         return text.toString();
     }
 
+    /** Applies the script and compares the answer and the text that is there afterwards. */
+    static void applied(PathPatcher patcher, int answer, String text) {
+        same("apply", patcher.apply(), answer);
+        same("text after apply", textOf(patcher), text);
+    }
+
+    static void found(PathPatcher patcher, String matches, String hits) {
+        same("matches", matchesOf(patcher), matches);
+        same("hits", hitsOf(patcher), hits);
+    }
+
     static void nodes(String text, int want) {
         same("nodes of " + text, typed(text).nodes(), want);
+    }
+
+    /** Every edge of every node, as "0>1 1>2,3". */
+    static String edgesOf(PathPatcher patcher) {
+        StringBuilder row = new StringBuilder();
+        int nodes = patcher.nodes();
+        for (int n = 0; n < nodes; n++) {
+            row.append(n == 0 ? "" : " ").append(n).append('>').append(patcher.edge(n, 0));
+            if (patcher.edge(n, 1) != -1) {
+                row.append(',').append(patcher.edge(n, 1));
+            }
+        }
+        return row.toString();
+    }
+
+    static void edges(String text, String want) {
+        same("edges of " + text, edgesOf(typed(text)), want);
     }
 
     /** The numbers of all matches, as "[1, 2]", or what matches() answered if that is negative. */

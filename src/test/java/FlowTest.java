@@ -82,56 +82,39 @@ public final class FlowTest {
         Check.nodes("?a{}".repeat(8), 8);
     }
 
-    /** Every edge of every node, as "0>1 1>2,3". */
-    private static String edgesOf(String text) {
-        PathPatcher patcher = Check.typed(text);
-        StringBuilder row = new StringBuilder();
-        for (int n = 0; n < patcher.nodes(); n++) {
-            row.append(n == 0 ? "" : " ").append(n).append('>').append(patcher.edge(n, 0));
-            if (patcher.edge(n, 1) != -1) {
-                row.append(',').append(patcher.edge(n, 1));
-            }
-        }
-        return row.toString();
-    }
-
-    private static void edges(String text, String want) {
-        Check.same("edges of " + text, edgesOf(text), want);
-    }
-
     private static void edgesOfRows() {
-        edges("", "");
-        edges("a=b;f(a);h(b);", "0>1 1>2 2>3");
-        edges("!a;f(a);", "0>2 1>2");
+        Check.edges("", "");
+        Check.edges("a=b;f(a);h(b);", "0>1 1>2 2>3");
+        Check.edges("!a;f(a);", "0>2 1>2");
     }
 
     private static void edgesOfChoices() {
-        edges("?a{}", "0>1,1");
-        edges("?a{}f(a);", "0>1,1 1>2");
-        edges("?a{f(a);}", "0>1,2 1>2");
-        edges("?a{}:{f(a);}", "0>2,1 1>2");
-        edges("?a{f(a);}:{}g(a);", "0>1,2 1>2 2>3");
-        edges("?a{f(a);g(a);}:{h(a);!a;}g(a);", "0>1,3 1>2 2>5 3>4 4>6 5>6");
+        Check.edges("?a{}", "0>1,1");
+        Check.edges("?a{}f(a);", "0>1,1 1>2");
+        Check.edges("?a{f(a);}", "0>1,2 1>2");
+        Check.edges("?a{}:{f(a);}", "0>2,1 1>2");
+        Check.edges("?a{f(a);}:{}g(a);", "0>1,2 1>2 2>3");
+        Check.edges("?a{f(a);g(a);}:{h(a);!a;}g(a);", "0>1,3 1>2 2>5 3>4 4>6 5>6");
     }
 
     private static void edgesOfLoops() {
-        edges("*a{}", "0>0,1");
-        edges("*a{}f(a);", "0>0,1 1>2");
-        edges("*a{f(a);g(a);}h(a);", "0>1,3 1>2 2>0 3>4");
-        edges("*a{!a;}", "0>1,2 1>2");
+        Check.edges("*a{}", "0>0,1");
+        Check.edges("*a{}f(a);", "0>0,1 1>2");
+        Check.edges("*a{f(a);g(a);}h(a);", "0>1,3 1>2 2>0 3>4");
+        Check.edges("*a{!a;}", "0>1,2 1>2");
     }
 
     private static void edgesOfNestedRows() {
-        edges("*a{?b{}:{}}", "0>1,2 1>0,0");
-        edges("*a{?b{f(a);}}", "0>1,3 1>2,0 2>0");
-        edges("*a{*b{}}", "0>1,2 1>1,0");
-        edges("?a{*b{}}:{*c{}}", "0>1,2 1>1,3 2>2,3");
-        edges("?a{?b{?c{f(a);}}}g(b);", "0>1,4 1>2,4 2>3,4 3>4 4>5");
-        edges("*a{?b{?c{f(a);}:{!a;}}}g(b);", "0>1,5 1>2,0 2>3,4 3>0 4>6 5>6");
-        edges("*a{*a{*a{*a{*a{*a{}}}}}}", "0>1,6 1>2,0 2>3,1 3>4,2 4>5,3 5>5,4");
-        edges("?a{?a{?a{?a{?a{?a{f(a);}}}}}}", "0>1,7 1>2,7 2>3,7 3>4,7 4>5,7 5>6,7 6>7");
-        edges("?a{?a{?a{?a{?a{?a{f(a);}}}}}}!a;", "0>1,7 1>2,7 2>3,7 3>4,7 4>5,7 5>6,7 6>7 7>8");
-        edges("*a{?a{?a{?a{?a{?a{f(a);}}}}}}!a;", "0>1,7 1>2,0 2>3,0 3>4,0 4>5,0 5>6,0 6>0 7>8");
+        Check.edges("*a{?b{}:{}}", "0>1,2 1>0,0");
+        Check.edges("*a{?b{f(a);}}", "0>1,3 1>2,0 2>0");
+        Check.edges("*a{*b{}}", "0>1,2 1>1,0");
+        Check.edges("?a{*b{}}:{*c{}}", "0>1,2 1>1,3 2>2,3");
+        Check.edges("?a{?b{?c{f(a);}}}g(b);", "0>1,4 1>2,4 2>3,4 3>4 4>5");
+        Check.edges("*a{?b{?c{f(a);}:{!a;}}}g(b);", "0>1,5 1>2,0 2>3,4 3>0 4>6 5>6");
+        Check.edges("*a{*a{*a{*a{*a{*a{}}}}}}", "0>1,6 1>2,0 2>3,1 3>4,2 4>5,3 5>5,4");
+        Check.edges("?a{?a{?a{?a{?a{?a{f(a);}}}}}}", "0>1,7 1>2,7 2>3,7 3>4,7 4>5,7 5>6,7 6>7");
+        Check.edges("?a{?a{?a{?a{?a{?a{f(a);}}}}}}!a;", "0>1,7 1>2,7 2>3,7 3>4,7 4>5,7 5>6,7 6>7 7>8");
+        Check.edges("*a{?a{?a{?a{?a{?a{f(a);}}}}}}!a;", "0>1,7 1>2,0 2>3,0 3>4,0 4>5,0 5>6,0 6>0 7>8");
     }
 
     private static void edgesThatAreNone() {

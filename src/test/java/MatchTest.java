@@ -19,11 +19,6 @@ public final class MatchTest {
         Check.end();
     }
 
-    private static void expect(PathPatcher patcher, String matches, String hits) {
-        Check.same("matches", Check.matchesOf(patcher), matches);
-        Check.same("hits", Check.hitsOf(patcher), hits);
-    }
-
     private static void refusalsInOrder() {
         PathPatcher patcher = Check.typed("f(a)");
         Check.same("both are wrong", patcher.matches(), -1);
@@ -41,7 +36,7 @@ public final class MatchTest {
         Check.same("match", patcher.match(0), -1);
         Check.same("hit", patcher.hit(0, 0), false);
         patcher.type('#');
-        expect(patcher, "[0]", "0/0");
+        Check.found(patcher, "[0]", "0/0");
     }
 
     private static void patternsOfEachKind() {
@@ -63,41 +58,41 @@ public final class MatchTest {
     private static void bindingsAreOrdered() {
         PathPatcher patcher = Check.typed("d=b;a=c;!d;");
         patcher.item(false, 1, 0, 6, 5);
-        expect(patcher, "[52, 72]", "0/0 1/0");
+        Check.found(patcher, "[52, 72]", "0/0 1/0");
         patcher.forget();
         patcher.item(false, 1, 0, 4, 6);
-        expect(patcher, "[19, 96]", "0/0 1/0");
+        Check.found(patcher, "[19, 96]", "0/0 1/0");
         patcher.forget();
         patcher.item(false, 2, 0, 5, 0);
-        expect(patcher, "[140]", "2/0");
+        Check.found(patcher, "[140]", "2/0");
     }
 
     private static void unknownsThatRepeat() {
         PathPatcher patcher = Check.typed("a=a;a=b;c=c;f(c);f(d);");
         patcher.item(false, 1, 0, 4, 4);
-        expect(patcher, "[0, 130]", "0/0 2/0");
+        Check.found(patcher, "[0, 130]", "0/0 2/0");
         patcher.item(false, 0, 0, 4, 0);
-        expect(patcher, "[130]", "2/0 3/1");
+        Check.found(patcher, "[130]", "2/0 3/1");
     }
 
     private static void nextWithoutDots() {
         PathPatcher patcher = Check.typed("?a{f(a);}:{f(a);}g(a);");
         patcher.item(false, 3, 0, 4, 0);
         patcher.item(false, 0, 0, 5, 0);
-        expect(patcher, "[0]", "0/0 1/1 2/1");
+        Check.found(patcher, "[0]", "0/0 1/1 2/1");
         patcher.item(false, 0, 1, 4, 0);
-        expect(patcher, "[0]", "0/0 1/1 2/1 3/2");
+        Check.found(patcher, "[0]", "0/0 1/1 2/1 3/2");
         Check.retype(patcher, "?a{f(a);}:{f(b);}g(a);");
-        expect(patcher, "[]", "");
+        Check.found(patcher, "[]", "");
         Check.retype(patcher, "?a{f(a);}g(a);");
-        expect(patcher, "[]", "");
+        Check.found(patcher, "[]", "");
         patcher.forget();
         patcher.item(false, 0, 1, 4, 0);
         patcher.item(false, 0, 1, 4, 0);
         Check.retype(patcher, "g(a);");
-        expect(patcher, "[]", "");
+        Check.found(patcher, "[]", "");
         Check.retype(patcher, "g(a);g(a);g(a);");
-        expect(patcher, "[0, 64]", "0/0 1/0 1/1 2/1");
+        Check.found(patcher, "[0, 64]", "0/0 1/0 1/1 2/1");
     }
 
     private static void nextWithDots() {
@@ -105,19 +100,19 @@ public final class MatchTest {
         patcher.item(false, 0, 0, 4, 0);
         patcher.dots(-1, 0, 0, 0);
         patcher.item(false, 0, 1, 4, 0);
-        expect(patcher, "[0]", "0/0 1/1");
+        Check.found(patcher, "[0]", "0/0 1/1");
         Check.retype(patcher, "f(a);h(a);?b{c=d;}:{h(b);}g(a);");
-        expect(patcher, "[0]", "0/0 5/1");
+        Check.found(patcher, "[0]", "0/0 5/1");
         Check.retype(patcher, "f(a);?b{g(a);}");
-        expect(patcher, "[]", "");
+        Check.found(patcher, "[]", "");
         Check.retype(patcher, "f(a);?b{g(a);}:{h(a);g(a);}g(a);");
-        expect(patcher, "[0]", "0/0 2/1 4/1");
+        Check.found(patcher, "[0]", "0/0 2/1 4/1");
         Check.retype(patcher, "f(a);?b{!c;}g(a);");
-        expect(patcher, "[]", "");
+        Check.found(patcher, "[]", "");
         Check.retype(patcher, "f(a);f(b);g(b);g(a);f(c);");
-        expect(patcher, "[0, 65]", "0/0 1/0 2/1 3/1");
+        Check.found(patcher, "[0, 65]", "0/0 1/0 2/1 3/1");
         Check.retype(patcher, "f(a);*b{g(a);}");
-        expect(patcher, "[]", "");
+        Check.found(patcher, "[]", "");
     }
 
     private static void forbiddenPatterns() {
@@ -125,25 +120,25 @@ public final class MatchTest {
         patcher.item(false, 0, 0, 4, 0);
         patcher.dots(0, 2, 4, 0);
         patcher.item(false, 0, 1, 4, 0);
-        expect(patcher, "[0]", "0/0 2/1");
+        Check.found(patcher, "[0]", "0/0 2/1");
         Check.retype(patcher, "f(a);h(a);g(a);");
-        expect(patcher, "[]", "");
+        Check.found(patcher, "[]", "");
         Check.retype(patcher, "f(a);g(a);h(a);");
-        expect(patcher, "[0]", "0/0 1/1");
+        Check.found(patcher, "[0]", "0/0 1/1");
         Check.retype(patcher, "f(a);?b{h(a);}g(a);");
-        expect(patcher, "[]", "");
+        Check.found(patcher, "[]", "");
         Check.retype(patcher, "h(a);f(a);?b{h(c);}g(a);h(a);");
-        expect(patcher, "[64]", "1/0 4/1");
+        Check.found(patcher, "[64]", "1/0 4/1");
         patcher.forget();
         patcher.item(false, 0, 0, 4, 0);
         patcher.dots(3, 0, 1, 0);
         patcher.item(false, 0, 1, 4, 0);
         Check.retype(patcher, "f(a);?b{}g(a);");
-        expect(patcher, "[]", "");
+        Check.found(patcher, "[]", "");
         Check.retype(patcher, "f(a);*b{}g(a);");
-        expect(patcher, "[]", "");
+        Check.found(patcher, "[]", "");
         Check.retype(patcher, "f(a);*a{}g(a);");
-        expect(patcher, "[0]", "0/0 2/1");
+        Check.found(patcher, "[0]", "0/0 2/1");
     }
 
     private static void forbiddenNodeThatIsTaken() {
@@ -151,11 +146,11 @@ public final class MatchTest {
         patcher.item(false, 0, 0, 4, 0);
         patcher.dots(0, 1, 4, 0);
         patcher.item(false, 0, 1, 4, 0);
-        expect(patcher, "[0]", "0/0 2/1");
+        Check.found(patcher, "[0]", "0/0 2/1");
         patcher.item(false, 0, 1, 4, 0);
-        expect(patcher, "[]", "");
+        Check.found(patcher, "[]", "");
         Check.retype(patcher, "f(a);h(a);g(a);g(a);");
-        expect(patcher, "[0]", "0/0 2/1 3/2");
+        Check.found(patcher, "[0]", "0/0 2/1 3/2");
     }
 
     private static void waysThatNeverEnd() {
@@ -163,13 +158,13 @@ public final class MatchTest {
         patcher.item(false, 0, 0, 4, 0);
         patcher.dots(-1, 0, 0, 0);
         patcher.item(false, 0, 1, 4, 0);
-        expect(patcher, "[0]", "0/0 3/1");
+        Check.found(patcher, "[0]", "0/0 3/1");
         Check.retype(patcher, "*a{}");
         patcher.forget();
         patcher.item(false, 3, 0, 4, 0);
         patcher.dots(-1, 0, 0, 0);
         patcher.item(false, 3, 0, 4, 0);
-        expect(patcher, "[]", "");
+        Check.found(patcher, "[]", "");
     }
 
     private static void waysThroughTheNodeItself() {
@@ -177,17 +172,17 @@ public final class MatchTest {
         patcher.item(false, 0, 0, 4, 0);
         patcher.dots(-1, 0, 0, 0);
         patcher.item(false, 0, 1, 4, 0);
-        expect(patcher, "[65]", "1/0 2/1");
+        Check.found(patcher, "[65]", "1/0 2/1");
         patcher.forget();
         patcher.item(false, 0, 0, 4, 0);
         patcher.dots(0, 0, 4, 0);
         patcher.item(false, 0, 1, 4, 0);
-        expect(patcher, "[]", "");
+        Check.found(patcher, "[]", "");
         patcher.forget();
         patcher.item(false, 3, 0, 4, 0);
         patcher.dots(3, 0, 4, 0);
         patcher.item(false, 0, 1, 5, 0);
-        expect(patcher, "[]", "");
+        Check.found(patcher, "[]", "");
     }
 
     /** A node like the next item is no end of the gap if what follows it does not fit. */
@@ -197,7 +192,7 @@ public final class MatchTest {
         patcher.dots(-1, 0, 0, 0);
         patcher.item(false, 0, 1, 4, 0);
         patcher.item(false, 0, 2, 4, 0);
-        expect(patcher, "[0]", "0/0 3/1 4/2");
+        Check.found(patcher, "[0]", "0/0 3/1 4/2");
     }
 
     private static void hitsStopAtTheFirstTaken() {
@@ -205,12 +200,12 @@ public final class MatchTest {
         patcher.item(false, 0, 0, 4, 0);
         patcher.dots(-1, 0, 0, 0);
         patcher.item(false, 0, 1, 4, 0);
-        expect(patcher, "[0]", "0/0 1/1");
+        Check.found(patcher, "[0]", "0/0 1/1");
         Check.retype(patcher, "f(a);?b{g(a);}g(a);g(a);");
-        expect(patcher, "[0]", "0/0 2/1 3/1");
+        Check.found(patcher, "[0]", "0/0 2/1 3/1");
         patcher.dots(-1, 0, 0, 0);
         patcher.item(false, 0, 1, 4, 0);
-        expect(patcher, "[0]", "0/0 2/1 3/1 3/2 4/2");
+        Check.found(patcher, "[0]", "0/0 2/1 3/1 3/2 4/2");
     }
 
     private static void hitsOfNothing() {
@@ -227,20 +222,20 @@ public final class MatchTest {
     private static void answersFollowTextAndScript() {
         PathPatcher patcher = Check.typed("f(a);f(b);");
         patcher.item(false, 0, 0, 4, 0);
-        expect(patcher, "[0, 65]", "0/0 1/0");
+        Check.found(patcher, "[0, 65]", "0/0 1/0");
         patcher.type('!');
         Check.same("no program", patcher.matches(), -1);
         patcher.type('a');
         patcher.type(';');
-        expect(patcher, "[0, 65]", "0/0 1/0");
+        Check.found(patcher, "[0, 65]", "0/0 1/0");
         patcher.dots(-1, 0, 0, 0);
         Check.same("no script", patcher.matches(), -2);
         patcher.item(false, 2, 0, 4, 0);
-        expect(patcher, "[0]", "0/0 2/1");
+        Check.found(patcher, "[0]", "0/0 2/1");
         patcher.apply();
-        expect(patcher, "[0]", "0/0 2/1");
+        Check.found(patcher, "[0]", "0/0 2/1");
         patcher.clear();
-        expect(patcher, "[]", "");
+        Check.found(patcher, "[]", "");
     }
 
     private static void allNodesAndBindings() {
