@@ -21,6 +21,7 @@ public final class FaceTest {
         publicMethodsAreTheDocuments();
         nothingElseIsVisible();
         classesInsideAreStatic();
+        namesOfTheFaceAreUsedOnce();
         ruledOutWordsAreAbsent();
         Check.end();
     }
@@ -61,6 +62,24 @@ public final class FaceTest {
         for (Class<?> one : inside) {
             Check.same(one.getName() + " is static", Modifier.isStatic(one.getModifiers()), true);
             Check.same(one.getName() + " has at most 20 fields", one.getDeclaredFields().length <= 20, true);
+        }
+    }
+
+    /** No private method bears the name of a public one; none inside does either, to be plain. */
+    private static void namesOfTheFaceAreUsedOnce() {
+        TreeSet<String> face = new TreeSet<>();
+        for (String method : FACE) {
+            face.add(method.replaceAll("^\\w+ |\\(.*$", ""));
+        }
+        for (Method method : PathPatcher.class.getDeclaredMethods()) {
+            boolean isPrivate = Modifier.isPrivate(method.getModifiers());
+            Check.same(method + " bears the face's name", isPrivate && face.contains(method.getName()), false);
+        }
+        for (Class<?> one : PathPatcher.class.getDeclaredClasses()) {
+            for (Method method : one.getDeclaredMethods()) {
+                Check.same(method + " bears the face's name", face.contains(method.getName()), false);
+                Check.same(method + " takes at most 7", method.getParameterCount() <= 7, true);
+            }
         }
     }
 
